@@ -19,6 +19,8 @@ public final class HeadTrees {
 
     private static final int SORT_SMOOTH = 1;
     private static final int RANKS = 31;
+    /** Enough for a row of keys a set of words, and for two rows a pair of places. */
+    private static final int KEY_ROWS = 2 * PLACES * PLACES;
     private static final int NO_TREE = -100000000;
     private static final int NO_SUCH_RANK = -100000001;
 
@@ -38,8 +40,9 @@ public final class HeadTrees {
     public HeadTrees() {
         hand = new Drawing();
         arcs = new Arcs();
-        allTrees = new AllTrees();
-        smoothTrees = new SmoothTrees();
+        TopKeys[] rows = TopKeys.rows();
+        allTrees = new AllTrees(rows);
+        smoothTrees = new SmoothTrees(rows);
         archive = new Archive();
         tagTable = new TagTable();
         questions = new Questions();
@@ -195,20 +198,19 @@ public final class HeadTrees {
         if (!hand.isTree()) {
             return STATE;
         }
-        if (archive.ever >= MOST_KEPT) {
-            return FULL;
+        int number = archive.add(hand);
+        if (number >= 0) {
+            tagTable.record(hand, 1);
         }
-        tagTable.record(hand, 1);
-        return archive.add(hand);
+        return number;
     }
 
     public int forget(int k) {
-        Drawing gone = archive.find(k);
+        Drawing gone = archive.remove(k);
         if (gone == null) {
             return UNKNOWN;
         }
         tagTable.record(gone, -1);
-        archive.remove(k);
         return gone.size;
     }
 
@@ -250,9 +252,6 @@ public final class HeadTrees {
         if (sort < ASK_OVER || sort > ASK_OTHER || !isVariable(x) || !fits) {
             return OUTSIDE;
         }
-        if (questions.size >= MOST_ASKED) {
-            return FULL;
-        }
         return questions.add(sort, x, y);
     }
 
@@ -263,48 +262,24 @@ public final class HeadTrees {
     }
 
     public int answers(int k) {
-        int refusal = refusalToAnswer(k);
-        if (refusal != 0) {
-            return refusal;
-        }
-        return questions.search(drawn(k), NONE);
+        return searched(k, NONE);
     }
 
     public int answer(int k, int i) {
-        int refusal = refusalToAnswer(k);
-        if (refusal != 0) {
-            return refusal;
-        }
-        questions.search(drawn(k), i);
-        return questions.picked;
+        int found = searched(k, i);
+        return found < 0 ? found : questions.picked;
     }
 
-    private int refusalToAnswer(int k) {
-        if (drawn(k) == null) {
+    /** How many answers there are, the wanted one being picked; below 0: the refusal. */
+    private int searched(int k, int wanted) {
+        Drawing drawing = drawn(k);
+        if (drawing == null) {
             return UNKNOWN;
         }
-        return questions.size == 0 || isHandWithoutTree(k) ? STATE : 0;
-    }
-
-    // ---- agreement
-
-    public int agree(int k, int l) {
-        int refusal = refusalToCompare(k, l);
-        return refusal != 0 ? refusal : Drawing.likeHeads(drawn(k), drawn(l));
-    }
-
-    public int near(int k, int l) {
-        int refusal = refusalToCompare(k, l);
-        return refusal != 0 ? refusal : Drawing.likePairs(drawn(k), drawn(l));
-    }
-
-    private int refusalToCompare(int k, int l) {
-        Drawing one = drawn(k);
-        Drawing other = drawn(l);
-        if (one == null || other == null) {
-            return UNKNOWN;
+        if (questions.size == 0 || !drawing.isTree()) {
+            return STATE;
         }
-        return isHandWithoutTree(k) || isHandWithoutTree(l) || one.size != other.size ? STATE : 0;
+        return questions.search(drawing, wanted);
     }
 
     /** The kept one of that number, or what is at hand for NONE; null: there is none. */
@@ -312,8 +287,28 @@ public final class HeadTrees {
         return k == NONE ? hand : archive.find(k);
     }
 
-    private boolean isHandWithoutTree(int k) {
-        return k == NONE && !hand.isTree();
+    // ---- agreement
+
+    public int agree(int k, int l) {
+        Drawing one = drawn(k);
+        Drawing other = drawn(l);
+        if (one == null || other == null) {
+            return UNKNOWN;
+        }
+        return areComparable(one, other) ? Drawing.likeHeads(one, other) : STATE;
+    }
+
+    public int near(int k, int l) {
+        Drawing one = drawn(k);
+        Drawing other = drawn(l);
+        if (one == null || other == null) {
+            return UNKNOWN;
+        }
+        return areComparable(one, other) ? Drawing.likePairs(one, other) : STATE;
+    }
+
+    private static boolean areComparable(Drawing one, Drawing other) {
+        return one.size == other.size && one.isTree() && other.isTree();
     }
 
     // ---- what is told
@@ -622,14 +617,15 @@ public final class HeadTrees {
 
         TopKeys() {
             keys = new long[RANKS];
+            restart(RANKS);
         }
 
-        static TopKeys[] row(int length) {
-            TopKeys[] row = new TopKeys[length];
-            for (int i = 0; i < length; i++) {
-                row[i] = new TopKeys();
+        static TopKeys[] rows() {
+            TopKeys[] rows = new TopKeys[KEY_ROWS];
+            for (int i = 0; i < KEY_ROWS; i++) {
+                rows[i] = new TopKeys();
             }
-            return row;
+            return rows;
         }
 
         void restart(int newLimit) {
@@ -637,8 +633,8 @@ public final class HeadTrees {
             limit = Math.max(1, Math.min(newLimit, RANKS));
         }
 
-        /** The keys of a tree that has no words yet. */
-        void restartEmpty(int newLimit) {
+        /** The one way to hang no words at all. */
+        void restartBare(int newLimit) {
             restart(newLimit);
             offer(0L);
         }
@@ -662,38 +658,31 @@ public final class HeadTrees {
                 at--;
             }
             // the same key is the same tree, found on another way
-            if (at == 0 || keys[at - 1] != key) {
-                insert(at, key);
+            if (at > 0 && keys[at - 1] == key) {
+                return true;
             }
-            return true;
-        }
-
-        private void insert(int at, long key) {
-            if (size < limit) {
-                size++;
-            }
+            size = Math.min(size + 1, limit);
             for (int i = size - 1; i > at; i--) {
                 keys[i] = keys[i - 1];
             }
             keys[at] = key;
+            return true;
         }
 
-        void offerEach(TopKeys part, long more) {
-            for (int i = 0; i < part.size; i++) {
-                if (!offer(part.keys[i] + more)) {
-                    return;
-                }
+        /** Offers the first keys of a part, each with more; whether the first of them was of use. */
+        boolean offerSome(TopKeys part, int most, long more) {
+            int used = 0;
+            while (used < part.size && used < most && offer(part.keys[used] + more)) {
+                used++;
             }
+            return used > 0;
         }
 
+        /** A sum of the parts' keys i and j stands behind (i + 1) * (j + 1) - 1 others: many are never tried. */
         void offerPairs(TopKeys one, TopKeys other, long more) {
-            for (int i = 0; i < one.size; i++) {
-                // as many sums as (i + 1) * (j + 1) - 1 come before that of i and j: beyond the limit none counts
-                for (int j = 0; j < other.size && (i + 1) * (j + 1) <= limit; j++) {
-                    if (!offer(one.keys[i] + other.keys[j] + more)) {
-                        break;
-                    }
-                }
+            int i = 0;
+            while (i < one.size && offerSome(other, limit / (i + 1), one.keys[i] + more)) {
+                i++;
             }
         }
     }
@@ -704,14 +693,14 @@ public final class HeadTrees {
         private final TopKeys[] bySet;
         private final long[] matrix;
 
-        AllTrees() {
-            bySet = TopKeys.row(1 << MOST_WORDS);
+        AllTrees(TopKeys[] rows) {
+            bySet = rows;
             matrix = new long[PLACES * PLACES];
         }
 
         TopKeys first(Arcs arcs, int n, int limit) {
             int whole = (1 << n) - 1;
-            bySet[0].restartEmpty(limit);
+            bySet[0].restartBare(limit);
             for (int set = 1; set <= whole; set++) {
                 bySet[set].restart(limit);
                 for (int d = 1; d <= n; d++) {
@@ -729,7 +718,7 @@ public final class HeadTrees {
             int places = rest << 1 | 1;
             for (int h = 0; h < PLACES; h++) {
                 if ((places >> h & 1) != 0 && arcs.allow(h, d)) {
-                    bySet[set].offerEach(bySet[rest], arcs.key(h, d));
+                    bySet[set].offerSome(bySet[rest], RANKS, arcs.key(h, d));
                 }
             }
         }
@@ -783,105 +772,113 @@ public final class HeadTrees {
     }
 
     /**
-     * The smooth trees among them, put together of spans of places i to j, each tree in one way alone:
-     * rightward, all behind i hang below i; leftward, all ahead of j hang below j; between, a rightward span
-     * of i and a leftward one of j meet, so that one of i and j can become the other's head.
+     * The smooth trees among them, each put together in one way alone, of spans and meetings. A span from a to b
+     * (ahead of it or behind): the words from there to b hang below a. A meeting of i and j: the words between hang,
+     * the first ones below i, the others below j, so that one of the two can become the other's head.
      */
     private static final class SmoothTrees {
-        private final TopKeys[] rightward;
-        private final TopKeys[] leftward;
-        private final TopKeys[] between;
-        private final long[] rightwardWays;
-        private final long[] leftwardWays;
-        private final long[] betweenWays;
+        private final TopKeys[] rows;
+        private final long[] spanWays;
+        private final long[] meetingWays;
 
-        SmoothTrees() {
-            rightward = TopKeys.row(PLACES * PLACES);
-            leftward = TopKeys.row(PLACES * PLACES);
-            between = TopKeys.row(PLACES * PLACES);
-            rightwardWays = new long[PLACES * PLACES];
-            leftwardWays = new long[PLACES * PLACES];
-            betweenWays = new long[PLACES * PLACES];
-        }
-
-        private static int cell(int i, int j) {
-            return i * PLACES + j;
+        SmoothTrees(TopKeys[] rows) {
+            this.rows = rows;
+            spanWays = new long[PLACES * PLACES];
+            meetingWays = new long[PLACES * PLACES];
         }
 
         TopKeys first(Arcs arcs, int n, int limit) {
             for (int i = 0; i <= n; i++) {
-                rightward[cell(i, i)].restartEmpty(limit);
-                leftward[cell(i, i)].restartEmpty(limit);
+                span(i, i).restartBare(limit);
             }
             for (int length = 1; length <= n; length++) {
                 for (int i = 0; i + length <= n; i++) {
-                    meet(i, i + length, limit);
-                    growRightward(arcs, i, i + length, limit);
-                    growLeftward(arcs, i, i + length, limit);
+                    int j = i + length;
+                    meet(i, j, limit);
+                    spread(arcs, i, j, limit);
+                    // the root hangs on nothing
+                    if (i > 0) {
+                        spread(arcs, j, i, limit);
+                    }
                 }
             }
-            return rightward[cell(0, n)];
+            return span(0, n);
         }
 
         private void meet(int i, int j, int limit) {
-            TopKeys found = between[cell(i, j)];
-            found.restart(limit);
-            for (int k = i; k < j; k++) {
-                found.offerPairs(rightward[cell(i, k)], leftward[cell(k + 1, j)], 0L);
+            TopKeys met = meeting(i, j);
+            met.restart(limit);
+            for (int last = i; last < j; last++) {
+                met.offerPairs(span(i, last), span(j, last + 1), 0L);
             }
         }
 
-        /** k is the last word whose head is i. */
-        private void growRightward(Arcs arcs, int i, int j, int limit) {
-            TopKeys found = rightward[cell(i, j)];
-            found.restart(limit);
-            for (int k = i + 1; k <= j; k++) {
-                if (arcs.allow(i, k)) {
-                    found.offerPairs(between[cell(i, k)], rightward[cell(k, j)], arcs.key(i, k));
+        private void spread(Arcs arcs, int a, int b, int limit) {
+            TopKeys spread = span(a, b);
+            spread.restart(limit);
+            for (int far = 1; far <= Math.abs(b - a); far++) {
+                int d = farthest(a, b, far);
+                if (arcs.allow(a, d)) {
+                    spread.offerPairs(meeting(a, d), span(d, b), arcs.key(a, d));
                 }
             }
         }
 
-        /** k is the first word whose head is j; the root has no head, so that place 0 finds none. */
-        private void growLeftward(Arcs arcs, int i, int j, int limit) {
-            TopKeys found = leftward[cell(i, j)];
-            found.restart(limit);
-            for (int k = Math.max(i, 1); i > 0 && k < j; k++) {
-                if (arcs.allow(j, k)) {
-                    found.offerPairs(leftward[cell(i, k)], between[cell(k, j)], arcs.key(j, k));
-                }
-            }
+        /** The farthest word of a span whose head is a stands so far from it. */
+        private static int farthest(int a, int b, int far) {
+            return a < b ? a + far : a - far;
         }
 
         long howMany(Arcs arcs, int n) {
             for (int i = 0; i <= n; i++) {
-                rightwardWays[cell(i, i)] = 1;
-                leftwardWays[cell(i, i)] = 1;
+                spanWays[cell(i, i)] = 1;
             }
             for (int length = 1; length <= n; length++) {
                 for (int i = 0; i + length <= n; i++) {
-                    countWays(arcs, i, i + length);
+                    int j = i + length;
+                    meetingWays[meetingCell(i, j)] = waysToMeet(i, j);
+                    spanWays[cell(i, j)] = waysToSpread(arcs, i, j);
+                    if (i > 0) {
+                        spanWays[cell(j, i)] = waysToSpread(arcs, j, i);
+                    }
                 }
             }
-            return rightwardWays[cell(0, n)];
+            return spanWays[cell(0, n)];
         }
 
-        private void countWays(Arcs arcs, int i, int j) {
-            long met = 0;
-            for (int k = i; k < j; k++) {
-                met += rightwardWays[cell(i, k)] * leftwardWays[cell(k + 1, j)];
+        private long waysToMeet(int i, int j) {
+            long ways = 0;
+            for (int last = i; last < j; last++) {
+                ways += spanWays[cell(i, last)] * spanWays[cell(j, last + 1)];
             }
-            betweenWays[cell(i, j)] = met;
-            long right = 0;
-            for (int k = i + 1; k <= j; k++) {
-                right += arcs.allow(i, k) ? betweenWays[cell(i, k)] * rightwardWays[cell(k, j)] : 0;
+            return ways;
+        }
+
+        private long waysToSpread(Arcs arcs, int a, int b) {
+            long ways = 0;
+            for (int far = 1; far <= Math.abs(b - a); far++) {
+                int d = farthest(a, b, far);
+                if (arcs.allow(a, d)) {
+                    ways += meetingWays[meetingCell(a, d)] * spanWays[cell(d, b)];
+                }
             }
-            rightwardWays[cell(i, j)] = right;
-            long left = 0;
-            for (int k = i; i > 0 && k < j; k++) {
-                left += arcs.allow(j, k) ? leftwardWays[cell(i, k)] * betweenWays[cell(k, j)] : 0;
-            }
-            leftwardWays[cell(i, j)] = left;
+            return ways;
+        }
+
+        private TopKeys span(int a, int b) {
+            return rows[cell(a, b)];
+        }
+
+        private TopKeys meeting(int a, int b) {
+            return rows[PLACES * PLACES + meetingCell(a, b)];
+        }
+
+        private static int meetingCell(int a, int b) {
+            return cell(Math.min(a, b), Math.max(a, b));
+        }
+
+        private static int cell(int a, int b) {
+            return a * PLACES + b;
         }
     }
 
@@ -898,6 +895,7 @@ public final class HeadTrees {
             return k >= 0 && k < ever ? ones[k] : null;
         }
 
+        /** The number of what is added, or FULL. */
         int add(Drawing drawing) {
             if (ever >= MOST_KEPT) {
                 return FULL;
@@ -909,10 +907,13 @@ public final class HeadTrees {
             return ever - 1;
         }
 
-        void remove(int k) {
-            if (k >= 0 && k < ever) {
+        /** What has been there; null: nothing was. */
+        Drawing remove(int k) {
+            Drawing gone = find(k);
+            if (gone != null) {
                 ones[k] = null;
             }
+            return gone;
         }
 
         int here() {
@@ -928,8 +929,8 @@ public final class HeadTrees {
 
     /** How many words of a tag have a head of a tag on a side, over the kept ones that are not gone. */
     private static final class TagTable {
-        /** A root can't stand behind: one of the cells of a word's tag stays out of the smoothing. */
-        private static final int SMOOTHING = (ROOT_TAG + 1) * SIDES - 1;
+        /** One for each tag and side that a head can have: the root can't stand behind. */
+        private static final int CELLS_OF_TAG = (ROOT_TAG + 1) * SIDES - 1;
 
         private final int[] counts;
         private final int[] totals;
@@ -952,7 +953,7 @@ public final class HeadTrees {
         }
 
         int learnedWeight(int a, int b, int side) {
-            int divisor = totals[b] + SMOOTHING;
+            int divisor = totals[b] + CELLS_OF_TAG;
             return divisor > 0 ? 1000 * (counts[slot(a, b, side)] + 1) / divisor : 0;
         }
     }
@@ -982,6 +983,7 @@ public final class HeadTrees {
             above = new int[PLACES];
         }
 
+        /** How many are asked then, or FULL. */
         int add(int sort, int x, int y) {
             if (size >= MOST_ASKED) {
                 return FULL;
