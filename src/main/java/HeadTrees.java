@@ -661,7 +661,9 @@ public final class HeadTrees {
             if (at > 0 && keys[at - 1] == key) {
                 return true;
             }
-            size = Math.min(size + 1, limit);
+            if (size < limit) {
+                size++;
+            }
             for (int i = size - 1; i > at; i--) {
                 keys[i] = keys[i - 1];
             }
