@@ -648,7 +648,7 @@ public final class HeadTrees {
             return NONE;
         }
 
-        /** Whether a lesser key can still be of use. */
+        /** Takes a key in its place; false: neither it nor a lesser one is among the greatest. */
         boolean offer(long key) {
             if (size >= limit && key <= keys[limit - 1]) {
                 return false;
