@@ -2,33 +2,41 @@ import java.util.Random;
 
 /** Runs of calls, drawn from a fixed seed, whose answers and digests must be those of PlainTrees. */
 public final class RandomRunsTest {
-    private static final int LONGEST = 512;
+    /** What an object is used for at most; later answers are free. */
+    private static final int MOST_CALLS = 512;
+    /** The most calls that one step makes, looks at the digest among them. */
+    private static final int CALLS_OF_A_STEP = 12;
+    private static final int KINDS_OF_STEPS = 12;
 
     private final Check check;
     private final Random random;
     private final int mostWords;
     private final int mostWeight;
+    /** What this run does most, so that some runs come to what is full. */
+    private final int favourite;
     private HeadTrees real;
     private PlainTrees plain;
     private String run;
+    private int calls;
 
     private RandomRunsTest(Check check, long seed, int mostWords, int mostWeight) {
         this.check = check;
         this.random = new Random(seed);
         this.mostWords = mostWords;
         this.mostWeight = mostWeight;
+        this.favourite = random.nextInt(KINDS_OF_STEPS);
     }
 
     public static void main(String[] args) {
         Check check = new Check();
         int[] weights = {0, 2, 50, 1000000};
-        for (int seed = 0; seed < 240; seed++) {
-            new RandomRunsTest(check, seed, 1 + seed % 5, weights[seed / 5 % 4]).go(LONGEST);
+        for (int seed = 0; seed < 1400; seed++) {
+            new RandomRunsTest(check, seed, 1 + seed % 5, weights[seed / 5 % 4]).go();
         }
-        for (int seed = 1000; seed < 1020; seed++) {
-            new RandomRunsTest(check, seed, 6, weights[seed % 4]).go(120);
+        for (int seed = 2000; seed < 2024; seed++) {
+            new RandomRunsTest(check, seed, 6, weights[seed % 4]).go();
         }
-        for (int seed = 2000; seed < 2012; seed++) {
+        for (int seed = 3000; seed < 3012; seed++) {
             new RandomRunsTest(check, seed, 7, weights[seed % 4]).goOverBest();
         }
         check.end();
@@ -36,19 +44,26 @@ public final class RandomRunsTest {
 
     private void start(String name) {
         run = name;
+        calls = 0;
         real = new HeadTrees();
         plain = new PlainTrees();
-        same("new", 0, 0);
+        sameAnswer("digest() of a new object", real.digest(), plain.digest());
     }
 
     private void same(String call, long got, long want) {
-        check.due(run + ": " + call, got, want);
-        check.due(run + ": digest() behind " + call, real.digest(), plain.digest());
+        sameAnswer(call, got, want);
+        sameAnswer("digest() behind " + call, real.digest(), plain.digest());
     }
 
-    private void go(int calls) {
+    private void sameAnswer(String call, long got, long want) {
+        calls++;
+        check.due(run + ": call " + calls + ", " + call, got, want);
+        check.holds("an object is used for " + MOST_CALLS + " calls at most", calls <= MOST_CALLS);
+    }
+
+    private void go() {
         start("up to " + mostWords + " words, weights to " + mostWeight);
-        for (int i = 0; i < calls && check.wrong() == 0; i++) {
+        while (calls + CALLS_OF_A_STEP <= MOST_CALLS && check.wrong() == 0) {
             step();
         }
     }
@@ -69,7 +84,7 @@ public final class RandomRunsTest {
     }
 
     private void step() {
-        switch (random.nextInt(12)) {
+        switch (random.nextInt(3) == 0 ? favourite : random.nextInt(KINDS_OF_STEPS)) {
             case 0 -> sentence();
             case 1, 2 -> weighing();
             case 3, 4 -> atHand();
@@ -175,8 +190,8 @@ public final class RandomRunsTest {
             for (int h = 0; h <= mostWords; h++) {
                 int w = random.nextInt(2 * mostWeight + 1) - mostWeight;
                 boolean is = random.nextInt(4) == 0;
-                same("weight", real.weight(h, d, w), plain.weight(h, d, w));
-                same("forbid", real.forbid(h, d, is), plain.forbid(h, d, is));
+                sameAnswer("weight", real.weight(h, d, w), plain.weight(h, d, w));
+                sameAnswer("forbid", real.forbid(h, d, is), plain.forbid(h, d, is));
             }
         }
         for (int sort = 0; sort <= 1; sort++) {
